@@ -25,7 +25,8 @@ final class Probe {
     }
 
     private static String shown(Object it) {
-        return it.toString().replace("\r", "\\r").replace("\n", "\\n");
+        String text = it.toString().replace("\r", "\\r").replace("\n", "\\n");
+        return text.length() > 1000 ? text.substring(0, 1000) + " .." : text;
     }
 
     /** Counts a call that is about to be made. */
