@@ -70,9 +70,14 @@ final class Probe {
 
     /** What a user's session answers to a text. */
     String manage(int user, String text) {
+        command(user, text);
+        return replies(user);
+    }
+
+    /** Like manage, but the answers are left to wait. */
+    void command(int user, String text) {
         feed(text);
         due("manage", call().manage(user, text.length()), text.length());
-        return replies(user);
     }
 
     /** What the session of delivery answers to a text. */
