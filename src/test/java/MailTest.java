@@ -76,8 +76,13 @@ public final class MailTest {
         Probe.due("501 bytes, the last one a 13", p.mail("NOOP " + long495 + "\r\r\n"), "500 5.5.2 too long\r\n");
         Probe.due("in pieces", p.mail("NO") + p.mail("OP\r") + p.mail("\n"), OK);
         Probe.due("13 and 10 alone", p.mail("NOOP\nNOOP\r\n" + "NO\rOP\r\n" + "NOOP\r\r\n" + "NOOP\n\r\n"), UNKNOWN.repeat(4));
+        Probe.due("a 10 behind a message", p.mail("MAIL FROM:<>\r\nRCPT TO:<dan@here>\r\nDATA\r\n.\r\n\nNOOP\r\n"),
+            SENDER + RECIPIENT + "354 go\r\n250 2.0.0 <dan@here>\r\n" + UNKNOWN);
         Probe.due("words", p.mail("\r\n NOOP\r\nNOOPS\r\nNOO\r\nNOOP\t\r\nnOoP\r\nNOOP \r\nDATA \r\nrset x\r\n"),
             UNKNOWN.repeat(5) + OK + SYNTAX.repeat(3));
+        p.post("NOOP\r");
+        p.call().connect();
+        Probe.due("a 10 at the beginning", p.mail("\nNOOP\r\n"), "220 here LMTP\r\n" + UNKNOWN);
     }
 
     private static void senders() {
@@ -97,7 +102,7 @@ public final class MailTest {
         String forty = "a123456789b123456789c123456789d123456789";
         String sixty = forty + "e123456789f123456789";
         String signs = "Az09!#$%&'*+-/=?^_`{|}~";
-        String[] good = {forty + "@" + sixty, signs + "@b", "a.b.c@d.e-.F9", "-@-"};
+        String[] good = {forty + "@" + sixty, signs + "@b", "a.b.c@d.e-.F9", "-@-", "AZaz09@AZaz09"};
         for (String address : good) {
             Probe.due(address, p.mail("MAIL FROM:<" + address + ">\r\nRSET\r\n"), SENDER + OK);
         }

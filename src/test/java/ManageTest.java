@@ -175,5 +175,12 @@ public final class ManageTest {
             Probe.due("not done", p.manage(0, "GETSCRIPT \"a\"\r\n"), "{0}\r\n\r\nOK\r\n");
         }
         Probe.due("half a command is gone", p.manage(1, "UT\r\n"), SYNTAX);
+        p.command(0, "LOGO");
+        p.command(2, "LOGO");
+        p.command(3, "LOGO");
+        p.call().cut(1);
+        p.call().tick();
+        p.call().start();
+        Probe.due("of each user", p.manage(0, "UT\r\n") + p.manage(2, "UT\r\n") + p.manage(3, "UT\r\n"), SYNTAX.repeat(3));
     }
 }

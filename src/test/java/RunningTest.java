@@ -22,6 +22,7 @@ public final class RunningTest {
         rejecting();
         outbox();
         manyBytes();
+        oddBytes();
         Probe.end("RunningTest");
     }
 
@@ -110,6 +111,12 @@ public final class RunningTest {
     private static void counted() {
         holds("header :count \"eq\" [\"x\",\"X\",\"subject\"] \"3\"", true);
         holds("header :count \"eq\" \"none\" \"0\"", true);
+        renew();
+        p.activate(0, ALL + "if header :count \"eq\" \"x\" \"10\" {discard;}");
+        p.send("<>", "anna@here", "x:1\r\n".repeat(10));
+        p.send("<>", "anna@here", "x:1\r\n".repeat(11));
+        p.send("<>", "anna@here", "x:1\r\n".repeat(100));
+        Probe.due("ten of them", p.call().count(0), 2);
         holds("header :count \"gt\" \"x\" [\"5\",\"1 or more\"]", true);
         holds("header :count \"lt\" \"x\" \"many\"", true);
         holds("header :count \"ge\" \"x\" \"many\"", false);
@@ -177,6 +184,9 @@ public final class RunningTest {
         p.send("<>", "anna@here", "x\r\n");
         Probe.due("the implicit keep has those set at the end", p.call().message(0, 0, 0, 1), 2);
         Probe.due("the copy those set then", p.call().message(0, 1, 1, 1), 1);
+        p.activate(0, ALL + "addflag [\"\\\\Draft\",\"\\\\Answered\"];if allof(hasflag \"\\\\draft\",hasflag \"\\\\answered\",not hasflag \"\\\\deleted\"){discard;}");
+        p.send("<>", "anna@here", "x\r\n");
+        Probe.due("the last flag", p.call().messages(0, 0), 1);
         p.activate(0, ALL + "addflag \"\\\\Seen\";keep;addflag \"\\\\Draft\";");
         p.send("<>", "anna@here", "x\r\n");
         Probe.due("none at the beginning", p.call().message(0, 0, 1, 1), 1);
@@ -205,6 +215,9 @@ public final class RunningTest {
         Probe.due("the same mailbox counts once", p.boxes(0), "INBOX:1/1 A:1 a:1");
         Probe.due("the same address counts once", p.call().count(1), 2);
         Probe.due("as it was first told", p.name(4, 0) + " " + p.name(4, 1), "x@y z@y");
+        p.activate(0, ALL + "fileinto \"A\";fileinto \"aa\";fileinto \"AA\";");
+        p.send("<>", "anna@here", "x\r\n");
+        Probe.due("letters tell mailboxes apart", p.boxes(0), "INBOX:1/1 A:2 a:1 aa:1 AA:1");
         p.activate(0, ALL + "fileinto :copy :flags \"\\\\Seen\" \"INBOX\";");
         p.send("<>", "anna@here", "x\r\n");
         Probe.due("with the implicit keep, too", p.call().messages(0, 0), 2);
@@ -276,6 +289,17 @@ public final class RunningTest {
         Probe.due("without an answer it fits", p.send("<x@y>", "anna@here", "\r\n"), "250 2.0.0 <anna@here>\r\n");
         Probe.due("100 in the outbox", p.call().count(1), 100);
         Probe.due("mailboxes have room", p.send("<x@y>", "dan@here", "\r\n"), "250 2.0.0 <dan@here>\r\n");
+    }
+
+    private static void oddBytes() {
+        renew();
+        p.activate(0, ALL + "fileinto \"1\";fileinto \"2\";fileinto \"3\";fileinto \"4\";fileinto \"5\";keep;"
+            + "redirect \"a@b\";redirect \"b@b\";redirect \"c@b\";redirect \"d@b\";");
+        p.post("MAIL FROM:<>\r\n" + "RCPT TO:<anna@here>\r\n".repeat(4) + "DATA\r\n" + "z".repeat(3747) + "\r\n.\r\n");
+        p.replies(4);
+        Probe.due("39 more", p.send("<>", "dan@here", "z".repeat(37) + "\r\n"), "250 2.0.0 <dan@here>\r\n");
+        Probe.due("149999 bytes", p.call().count(2), 149999);
+        Probe.due("150001 would be", p.send("<>", "dan@here", "\r\n"), "452 4.2.2 full\r\n");
     }
 
     private static void manyBytes() {

@@ -37,13 +37,15 @@ public final class VacationTest {
         Probe.due("a subject", p.bytes(1), "To: Joe@x.y\r\nSubject: Off\r\n\r\nI am off.\r\n");
         Probe.due("its address", p.name(4, 0), "Joe@x.y");
         p.activate(0, REQUIRE + "vacation text:\na\n..b\n.\n;discard;");
-        p.send("<Joe@x.y>", "anna@here", TO_ANNA + "subject:  Hi\r\n  there \r\nSubject: second\r\n");
+        p.send("<Joe@x.y>", "anna@here", "Cc: anna@here\r\nsubject:  Hi\r\n  there \r\nSubject: second\r\n");
         Probe.due("the message's subject", p.bytes(2), "To: Joe@x.y\r\nSubject: Auto: Hi  there\r\n\r\na\n.b\n\r\n");
         p.activate(0, REQUIRE + "vacation :subject \"\" \"c\";");
         p.send("<Joe@x.y>", "anna@here", TO_ANNA);
         Probe.due("an empty subject", p.bytes(4), "To: Joe@x.y\r\nSubject: \r\n\r\nc\r\n");
         p.activate(0, REQUIRE + "vacation \"\";");
         p.send("<Joe@x.y>", "anna@here", TO_ANNA);
+        p.send("<Other@x.y>", "anna@here", "Subject: first\r\n" + TO_ANNA);
+        Probe.due("a subject ahead of all", p.bytes(8), "To: Other@x.y\r\nSubject: Auto: first\r\n\r\n\r\n");
         Probe.due("no subject", p.bytes(6), "To: Joe@x.y\r\nSubject: Auto: \r\n\r\n\r\n");
     }
 
@@ -66,7 +68,7 @@ public final class VacationTest {
         String[] always = {"List: x\r\n", "Auto-Submitted: No \r\n", "Auto-Submitted: no\r\nAuto-Submitted: NO\r\n", "\r\nList-Id: x\r\n"};
         Probe p = ready("vacation \"x\";");
         for (int i = 0; i < never.length; i++) {
-            answers("of " + never[i], p, "<a@b>", TO_ANNA + never[i], false);
+            answers("of " + never[i], p, "<a@b>", i % 2 == 0 ? never[i] + TO_ANNA : TO_ANNA + never[i], false);
         }
         for (int i = 0; i < always.length; i++) {
             answers("of " + always[i], p, "<a" + i + "@b>", TO_ANNA + always[i], true);
