@@ -38,7 +38,7 @@ public final class SortedMail {
         answers[DELIVERY] = new Queue();
         delivery = new Delivery(answers[DELIVERY]);
         reader = new Reader(delivery, parser.lexer.strings);
-        runner = new Runner(parser, reader, delivery);
+        runner = new Runner(parser, reader);
     }
 
     public boolean feed(int a, int b, int c, int d, int e) {
@@ -572,7 +572,7 @@ public final class SortedMail {
         }
 
         void putFrom(Texts other, int i) {
-            if (other.has(i)) {
+            if (i >= 0 && i < other.size) {
                 putRange(other.row, other.from[i], other.to[i]);
             }
         }
@@ -643,7 +643,9 @@ public final class SortedMail {
         private boolean isSameAt(int mine, byte[] other, int his, int length, boolean caseless) {
             for (int j = 0; j < length; j++) {
                 int b = row[mine + j];
-                if (b != other[his + j] && !(caseless && upper(b) == upper(other[his + j]))) {
+                int small = b | 32;
+                boolean isOtherCase = small >= 'a' && small <= 'z' && (b ^ other[his + j]) == 32;
+                if (b != other[his + j] && !(caseless && isOtherCase)) {
                     return false;
                 }
             }
@@ -1771,7 +1773,8 @@ public final class SortedMail {
             "if stop discard keep fileinto redirect reject setflag addflag removeflag vacation";
         private static final String TEST_WORDS =
             "header address envelope hasflag exists size allof anyof not true false";
-        private static final String TAG_WORDS = "is contains matches count value comparator all localpart domain flags copy days subject addresses handle over under";
+        private static final String TAG_WORDS =
+            "is contains matches count value comparator all localpart domain flags copy days subject addresses handle over under";
         private static final int COUNT_WORD = 3;
         private static final int VALUE_WORD = 4;
         private static final int COMPARATOR_WORD = 5;
@@ -1782,14 +1785,17 @@ public final class SortedMail {
         private static final int ADDRESSES_WORD = 13;
         private static final int HANDLE_WORD = 14;
         private static final int OVER_WORD = 15;
+        // For each of these words its group, as a bit that Node tells.
         private static final int[] TAG_GROUPS = {1, 1, 1, 1, 1, 2, 4, 4, 4, 8, 16, 32, 64, 128, 256, 512, 512};
 
         private static final String EXTENSIONS =
             "fileinto reject envelope copy imap4flags relational vacation comparator-i;ascii-numeric";
         private static final int NUMERIC_EXTENSION = 128;
+        // Which extensions a tag or a node's kind needs, as bits in the order of their names.
         private static final int[] NEEDED_BY_TAGS = {0, 0, 0, 32, 32, 0, 0, 0, 0, 16, 8, 0, 0, 0, 0, 0, 0};
         private static final int[] NEEDED_BY_KINDS =
             {0, 0, 0, 0, 1, 0, 2, 16, 16, 16, 64, 0, 0, 4, 16, 0, 0, 0, 0, 0, 0, 0, 0, 0, 0, 0};
+        // The groups of tags that a node's kind may have.
         private static final int[] TAGS_OF_KINDS =
             {0, 0, 0, 8, 24, 16, 0, 0, 0, 0, 480, 3, 7, 7, 3, 0, 512, 0, 0, 0, 0, 0, 0, 0, 0, 0};
 
@@ -2153,7 +2159,7 @@ public final class SortedMail {
         private final Texts found = new Texts(MOST_FIELDS, MOST_BYTES);
         private final Texts foundCount = new Texts(1, 10);
         private final Texts strings;
-        private final Delivery delivery;
+        final Delivery delivery;
 
         Reader(Delivery delivery, Texts strings) {
             this.delivery = delivery;
@@ -2290,7 +2296,8 @@ public final class SortedMail {
             boolean from = false;
             boolean to = false;
             for (int i = 0; i < test.amount[Node.NAMES]; i++) {
-                int place = strings.placeIn("from to", test.first[Node.NAMES] + i);
+                int string = test.first[Node.NAMES] + i;
+                int place = Texts.place("from to", strings.row, strings.from[string], strings.to[string]);
                 from = from || place == 0;
                 to = to || place == 1;
             }
@@ -2451,12 +2458,10 @@ public final class SortedMail {
         private boolean hasStopped;
         private final Parser parser;
         private final Reader reader;
-        private final Delivery delivery;
 
-        Runner(Parser parser, Reader reader, Delivery delivery) {
+        Runner(Parser parser, Reader reader) {
             this.parser = parser;
             this.reader = reader;
-            this.delivery = delivery;
         }
 
         void begin(User newUser, int newRecipient) {
@@ -2644,11 +2649,11 @@ public final class SortedMail {
             if (isKept) {
                 addFile(INBOX, flags);
             }
-            if (reject != null && delivery.sender.lengthOf(0) > 0) {
+            if (reject != null && reader.delivery.sender.lengthOf(0) > 0) {
                 writeAnswer(reject);
             }
             if (vacation != null && reader.isFromPerson() && reader.isAddressed(vacation, recipient)) {
-                Entry note = user.latestNote(delivery.sender, parser.lexer.strings, vacation.handle());
+                Entry note = user.latestNote(reader.delivery.sender, parser.lexer.strings, vacation.handle());
                 if (note == null || today >= note.day + daysOf(vacation)) {
                     writeAnswer(vacation);
                 }
@@ -2665,7 +2670,7 @@ public final class SortedMail {
             hasAnswer = true;
             answer.clear();
             answer.putText("To: ");
-            answer.putFrom(delivery.sender, 0);
+            answer.putFrom(reader.delivery.sender, 0);
             answer.putText("\r\nSubject: ");
             if (node.kind == Node.REJECT) {
                 answer.putText("Refused");

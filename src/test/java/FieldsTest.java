@@ -42,6 +42,7 @@ public final class FieldsTest {
         due("exists \"b\"", "a: 1\r\nx y: 2\r\nb: 1\r\n", false);
         due("exists \"b\"", "a: 1\r\n\u00e9: 2\r\nb: 1\r\n", false);
         due("exists \"b\"", "a: 1\r\nx\r: 2\r\nb: 1\r\n", false);
+        due("exists \"b\"", "a: 1\r\nx\u007f: 2\r\nb: 1\r\n", false);
         due("exists \"b\"", "a: 1\r\n  \t\r\nb: 1\r\n", true);
     }
 
@@ -62,7 +63,8 @@ public final class FieldsTest {
             {"<a@b> \"not closed, c@d", "a@b"}, {"<a@b, c@d", ""}, {"<a,b@c>, d@e", "d@e"}, {"<a@b> <c@d>, e@f", "a@b e@f"}, {"< a @\tb >", "a@b"},
             {"a @ b . c", "a@b.c"}, {"<a(x)@b>", "a@b"}, {"a(x)@(y)b", "a@b"}, {"\"a\"@b", ""}, {"<\"a b\"@c>, d@e", "d@e"}, {"\"<\" <a@b>", "a@b"},
             {"(<) a@b", "a@b"}, {"a@b>", ""}, {"x> <a@b>", "a@b"}, {",,a@b,,", "a@b"}, {"", ""}, {"a@@b, a@b@c, @b, a@, a..b@c", ""}, {"<>, a@b", "a@b"},
-            {"group: a@b, c@d;", ""}, {"<a@b> <c@d, e@f>", "a@b"}, {"a@b\\, c@d", "c@d"}, {"<\"x>y\">, a@b", "a@b"}, {"a@b(x\\", "a@b"}};
+            {"group: a@b, c@d;", ""}, {"<a@b> <c@d, e@f>", "a@b"}, {"a@b\\, c@d", "c@d"}, {"<\"x>y\">, a@b", "a@b"}, {"a@b(x\\", "a@b"},
+            {"() a@b, \"\" <c@d>", "a@b c@d"}, {"(()) a@b, (\\(), c@d", "a@b c@d"}};
         for (String[] row : rows) {
             String[] found = row[1].isEmpty() ? new String[0] : row[1].split(" ");
             StringBuilder test = new StringBuilder("allof(address :count \"eq\" \"to\" \"" + found.length + "\"");

@@ -71,6 +71,7 @@ public final class RunningTest {
         holds("header :matches \"y\" \"a\\\\*b\\\\\\\\c\"", true);
         holds("header :matches \"y\" \"*\\\\c\"", true);
         holds("header :matches \"x\" \"007\\\\\"", false);
+        holds("header :matches \"subject\" \"*l\\\\d\"", true);
         holds("header :matches :comparator \"i;octet\" \"subject\" \"hello*\"", false);
         holds("header :matches :comparator \"i;octet\" \"subject\" \"H*d\"", true);
     }
@@ -137,6 +138,8 @@ public final class RunningTest {
         holds("envelope :localpart \"to\" \"anna\"", true);
         holds("envelope :domain [\"from\",\"to\"] \"here\"", true);
         holds("envelope \"subject\" \"hello world\"", false);
+        holds("envelope \"to\" \"sam@far.net\"", false);
+        holds("envelope \"from\" \"anna@here\"", false);
         renew();
         p.activate(0, ALL + "if allof(envelope \"from\" \"\",envelope :domain \"from\" \"\",envelope :count \"eq\" \"from\" \"1\"){discard;}");
         p.send("<>", "anna@here", MESSAGE);
