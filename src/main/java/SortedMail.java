@@ -610,7 +610,9 @@ public final class SortedMail {
         }
 
         void addFrom(Texts other, int i) {
-            putFrom(other, i);
+            if (i >= 0 && i < other.size) {
+                putRange(other.row, other.from[i], other.to[i]);
+            }
             close();
         }
 
@@ -1785,8 +1787,11 @@ public final class SortedMail {
         private static final int ADDRESSES_WORD = 13;
         private static final int HANDLE_WORD = 14;
         private static final int OVER_WORD = 15;
-        // For each of these words its group, as a bit that Node tells.
-        private static final int[] TAG_GROUPS = {1, 1, 1, 1, 1, 2, 4, 4, 4, 8, 16, 32, 64, 128, 256, 512, 512};
+        // In the order of these words.
+        private static final int[] TAG_GROUPS = {
+            Node.MATCH_TAG, Node.MATCH_TAG, Node.MATCH_TAG, Node.MATCH_TAG, Node.MATCH_TAG, Node.COMPARATOR_TAG,
+            Node.PART_TAG, Node.PART_TAG, Node.PART_TAG, Node.FLAGS_TAG, Node.COPY_TAG, Node.DAYS_TAG,
+            Node.SUBJECT_TAG, Node.ADDRESSES_TAG, Node.HANDLE_TAG, Node.OVER_TAG, Node.OVER_TAG};
 
         private static final String EXTENSIONS =
             "fileinto reject envelope copy imap4flags relational vacation comparator-i;ascii-numeric";

@@ -50,7 +50,7 @@ public final class FaultsTest {
 
     private static void numbers() {
         fine("if size :over 0{}", "if size :over 2147483647{}", "if size :over 00000000000000000000012{}", "if size :over 2097151k{}", "if size :over 2047M{}",
-            "if size :over 1G{}", "if size:under 5 {}");
+            "if size :over 1G{}", "if size:under 5 {}", "IF SIZE:UNDER 5M {STOP;}");
         wrong("if size :over 2147483648{}", "if size :over 2097152K{}", "if size :over 2048m{}", "if size :over 2g{}", "if size :over 5Kb{}", "if size :over 5_{}",
             "if size :over 5x{}", "if size :over 5K5{}", "if size :over 99999999999999999999{}", "if size :over -1{}", "if size :over 99999999999999999999G{}");
     }
