@@ -1,9 +1,12 @@
+import java.util.function.Supplier;
+
 /** One object under test, spoken to in texts; it counts its calls, as only 512 of them are promised. */
 final class Probe {
     static final int DELIVERY = 4;
     private static final int MOST_CALLS = 512;
     private static int wrong = 0;
     private static int checked = 0;
+    private static String sentence = "";
 
     final SortedMail mail = new SortedMail();
     private int calls = 0;
@@ -16,11 +19,16 @@ final class Probe {
         }
     }
 
+    /** The sentence of the document that the next answers are held against. */
+    static void sentence(String text) {
+        sentence = "(" + text + ") ";
+    }
+
     static void due(String what, Object got, Object want) {
         checked++;
         if (!want.equals(got)) {
             wrong++;
-            System.out.println(what + ": answered [" + shown(got) + "], due is [" + shown(want) + "]");
+            System.out.println(sentence + what + ": answered [" + shown(got) + "], due is [" + shown(want) + "]");
         }
     }
 
@@ -36,6 +44,42 @@ final class Probe {
             due("calls of one object", calls, MOST_CALLS);
         }
         return mail;
+    }
+
+    int callsLeft() {
+        return MOST_CALLS - calls;
+    }
+
+    static Probe greeted() {
+        Probe p = new Probe();
+        p.greet();
+        return p;
+    }
+
+    /** The power goes, with no other change than that. */
+    void goDark() {
+        due("cut", call().cut(1), true);
+        due("the day that is cut", call().tick(), -1);
+    }
+
+    /** What the counts and the INBOXes tell. */
+    String state() {
+        int[] whats = {0, 1, 2, 3, 4, 5, 6, 7, 10, 11, 12, 13, 20, 21, 22, 23, 30, 31, 32, 33};
+        StringBuilder all = new StringBuilder();
+        for (int what : whats) {
+            all.append(what).append(':').append(call().count(what)).append(' ');
+        }
+        for (int user = 0; user < 4; user++) {
+            all.append(call().messages(user, 0)).append(' ');
+        }
+        return all.toString();
+    }
+
+    /** A call that has to answer so, and to change nothing that can be asked. */
+    void refused(String what, Supplier<Object> asked, Object answer) {
+        String before = state();
+        due(what, asked.get(), answer);
+        due(what + " has changed nothing", state(), before);
     }
 
     /** Feeds a text, with zeros behind it up to a multiple of 20 bytes. */
