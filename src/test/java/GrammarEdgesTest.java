@@ -43,6 +43,9 @@ public final class GrammarEdgesTest {
                 Bench.fault(ALL + word[0] + " " + TAGS[tag] + word[1], word[2].charAt(tag) == 'x' ? 0 : 2);
             }
         }
+        for (String tag : TAGS) {
+            Bench.fault(ALL + "if size :under\n" + tag + " 1{}", 3);
+        }
     }
 
     private static void tagsTwice() {

@@ -47,7 +47,7 @@ public final class MatchEdgesTest {
         Bench.holds("envelope :count \"eq\" [\"cc\",\"bcc\"] \"0\"", "", true);
         Bench.holds("envelope :count \"eq\" [\"from\",\"FROM\",\"to\",\"To\",\"x\"] \"2\"", "", true);
         Bench.holds("if header \"x\" \"from\"{}", "envelope \"cc\" \"sam@far.net\"", "", false);
-        Bench.holds("envelope \"cc\" [\"sam@far.net\",\"from\"]", "", false);
+        Bench.holds("envelope \"cc\" [\"from\",\"sam@far.net\"]", "", false);
         Bench.holds("envelope :count \"eq\" \"cc\" [\"1\",\"from\"]", "", false);
         Probe p = new Probe();
         p.activate(0, Bench.ALL + "if allof(envelope \"from\" \"\",envelope :all \"from\" \"\",envelope :localpart \"from\" \"\",envelope :domain \"from\" \"\","
@@ -184,7 +184,7 @@ public final class MatchEdgesTest {
         matches("a?c", "a*c", true);
         matches("a*c", "a?*c", true);
         Probe p = new Probe();
-        p.activate(0, "if header :matches \"a\" \"ab\"{discard;}");
+        p.activate(0, "if header :matches \"A\" \"ab\"{discard;}");
         p.greet();
         p.send("<>", "anna@here", "a: xaab\r\n");
         Probe.due("without a * no part of it", p.call().count(0), 1);

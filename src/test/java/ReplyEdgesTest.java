@@ -4,6 +4,7 @@ public final class ReplyEdgesTest {
         atMostSeven();
         none();
         sessions();
+        tenThousand();
         withoutPower();
         Probe.end("ReplyEdgesTest");
     }
@@ -56,6 +57,27 @@ public final class ReplyEdgesTest {
         for (int user = 0; user < 4; user++) {
             Probe.due("of user " + user, p.replies(user), answers[user]);
         }
+    }
+
+    private static void tenThousand() {
+        Probe.sentence("10000 bytes of each wait at most; bytes beyond are left out");
+        String noop = "250 2.0.0 ok\r\n";
+        Probe p = Probe.greeted();
+        p.post("NOOP\r\n".repeat(1000));
+        Probe.due("the first seven of 10000", p.call().reply(4), 0x0732353020322e30L);
+        p.post("NOOP\r\nNOOP\r\n");
+        p.command(2, "LOGOUT\r\n");
+        Probe.due("another session's", p.replies(2), "OK\r\n");
+        // 10000 bytes can't be taken with 512 calls: the rest is read by calls that the document leaves free.
+        StringBuilder all = new StringBuilder();
+        for (int i = 0; i < 1500; i++) {
+            long seven = p.mail.reply(4);
+            for (int j = 0; j < seven >>> 56; j++) {
+                all.append((char) (seven >> 8 * (6 - j) & 255));
+            }
+        }
+        Probe.due("how many there were", all.length(), 10000);
+        Probe.due("10000 of 14000 bytes, and seven of the next ones", all.toString(), noop.repeat(715).substring(7, 10000) + noop.substring(0, 7));
     }
 
     private static void withoutPower() {

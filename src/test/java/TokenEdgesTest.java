@@ -203,7 +203,7 @@ public final class TokenEdgesTest {
 
     private static void nothingLeftBehind() {
         Probe.sentence("A script is its own bytes: none of one that was longer is seen behind its end");
-        String[] scripts = {"/* */", "if exists \"ab\"{}", "if size :over 55{}", "keep;", "if true{}else{}", "require \"reject\";reject text:\r\na\r\n.\r\n;"};
+        String[] scripts = {"/* */", "if exists \"ab\"{}", "if exists \"a\nb\\\"\"{}", "if size :over 55{}", "keep;", "if true{}else{}", "require \"reject\";reject text:\r\na\r\n.\r\n;"};
         for (String script : scripts) {
             for (int size = 0; size < script.length(); size++) {
                 Probe fresh = new Probe();
